@@ -284,7 +284,8 @@ public final class MailParts {
         boolean message = value.bytes.is(MESSAGE);
         e.alternative = value.bytes.is("multipart/alternative");
         e.digest = value.bytes.is("multipart/digest");
-        loadFirstItem(e, dispositionField);
+        loadField(e, dispositionField);
+        value.keepFirstItem();
         e.hung = value.bytes.is("attachment");
         e.kind = LEAF;
         if (e.deep < MOST_DEEP) {
@@ -313,7 +314,8 @@ public final class MailParts {
     }
 
     private boolean isOpenCoding(Entity e) {
-        loadFirstItem(e, codingField);
+        loadField(e, codingField);
+        value.keepFirstItem();
         Row coding = value.bytes;
         return coding.size == 0 || coding.is("7bit") || coding.is("8bit") || coding.is("binary");
     }
@@ -369,7 +371,8 @@ public final class MailParts {
                 loadType(e);
                 return true;
             case 1:
-                loadFirstItem(e, codingField);
+                loadField(e, codingField);
+                value.keepFirstItem();
                 return true;
             case 2:
                 loadName(e);
@@ -394,11 +397,6 @@ public final class MailParts {
             loadField(e, typeField);
             value.keepParameter(nameName);
         }
-    }
-
-    private void loadFirstItem(Entity e, Row name) {
-        loadField(e, name);
-        value.keepFirstItem();
     }
 
     /** Leaves nothing, which reads as an empty VALUE, if there is no such FIELD. */
@@ -559,7 +557,8 @@ public final class MailParts {
         }
 
         boolean beginsBlank(int line) {
-            return !isEmptyLine(line) && isBlank(bytes.get(startOf(line)));
+            // An empty line has a byte 13 or 10 here, or none.
+            return isBlank(bytes.get(startOf(line)));
         }
 
         /** Where the : behind a FIELD's name is; NONE if the line does not begin a FIELD. */
