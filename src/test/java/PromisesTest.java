@@ -124,6 +124,25 @@ public final class PromisesTest {
         check.due("the old ENTITIES are gone", x.entity(1, 0), NONE);
         check.due("read with no tape", x.read(), 1);
         check.due("an empty MAIL has no lines", x.count(4), 0);
+        again();
+    }
+
+    /** Nothing of an earlier MAIL is left, whatever that was. */
+    private static void again() {
+        MailParts x = Check.mail(multi("alternative", "long", leaf("text/html"), leaf("text/plain"), leaf("a/b")));
+        check.due("TEXTS at first", Check.list(x, false), "2");
+        check.due("HANGING at first", Check.list(x, true), "3");
+        Check.write(x, multi("alternative", "b", leaf("c/d"), "Content-Disposition: attachment\n\nx"));
+        check.due("read again", x.read(), 3);
+        check.due("parts again", x.entity(0, 8), 2);
+        check.due("TEXTS again", Check.list(x, false), "");
+        check.due("HANGING again", Check.list(x, true), "1 2");
+        Check.write(x, multi("mixed", "c", leaf("text/html")));
+        check.due("read once more", x.read(), 2);
+        check.due("parts once more", x.entity(0, 8), 1);
+        check.due("TEXTS once more", Check.list(x, false), "1");
+        check.due("HANGING once more", Check.list(x, true), "");
+        check.due("not HUNG any more", x.entity(1, 3), 0);
     }
 
     // Terms: LINES and HEADS, as promise 5 tells them
@@ -157,7 +176,7 @@ public final class PromisesTest {
         head("A b:c\n", 0, 1, 0, 0);
         head("A:b\nC :d\n", 1, 1, 4, 1);
         head("A_:c\n", 0, 1, 0, 0);
-        head("-9zZ:c\n", 1, 0, 7, 1);
+        head("-09azAZ:c\n", 1, 0, 10, 1);
         head("a/:\n", 0, 1, 0, 0);
         head("a@:\n", 0, 1, 0, 0);
         head("a[:\n", 0, 1, 0, 0);
@@ -213,6 +232,8 @@ public final class PromisesTest {
         kind("Content-Type: multipart/; boundary=b\n", 0);
         kind("Content-Type: multipart; boundary=b\n", 0);
         kind("Content-Type: xmultipart/a; boundary=b\n", 0);
+        kind("Content-Type: xultipart/a; boundary=b\n", 0);
+        kind("Content-Type: xessage/rfc822\n", 0);
         kind("Content-Type: boundary=b; multipart/mixed\n", 0);
         kind("Content-Type: multipart/mixed; boundary=b\nContent-Transfer-Encoding: base64\n", 1);
         kind("Content-Type: text/plain\nContent-Type: multipart/mixed; boundary=b\n", 0);
@@ -242,6 +263,7 @@ public final class PromisesTest {
         String head = "Content-Type: multipart/a; boundary=b\n\n";
         int at = head.length();
         starts("no boundary", head + "x\ny");
+        starts("no dashes", head + "-xb\nx-b\n--bx-\n--b-x\n--b\n", at + 24);
         starts("one at the end", head + "--b", at + 3);
         starts("one without an end", head + "--b\n\nx", at + 4);
         starts("two", head + "ahead\n--b\nx\n--b\ny\n--b--\nbehind\n--b\nz", at + 10, at + 16);
@@ -253,6 +275,11 @@ public final class PromisesTest {
         starts("a boundary of --", "Content-Type: multipart/a; boundary=--\n\n----\n\n------\n----", 45);
         starts("a BLANK in it", "Content-Type: multipart/a; boundary=\"b \"\n\n--b\n--b \n--b --", 51);
         starts("a boundary in the HEAD", "Content-Type: multipart/a; boundary=b\n--b\n--b--", 42);
+
+        // A boundary that would be a FIELD is none of the part ahead of it.
+        MailParts y = Check.mail("Content-Type: multipart/a; boundary=\"b:c\"\n\n--b:c\nA:1\n--b:c\n\n--b:c--");
+        entity(y, 1, 0, 0, 1, 0, 49, 67, 1, 0, 0, 1);
+        check.due("no FIELD", Check.fieldOf(y, 1, "--b"), "NONE");
 
         // The outer boundary ends what is in a part, whatever that has begun itself.
         MailParts x = Check.mail(head + "--b\nContent-Type: multipart/a; boundary=c\n\n--c\n\n1\n--b\n--c\n--b--\n--c");
@@ -345,6 +372,8 @@ public final class PromisesTest {
         word("Content-Type: a /b\n", 0, "text/plain");
         word("Content-Type: a/b\tc\n", 0, "text/plain");
         word("Content-Type: ; a/b\n", 0, "text/plain");
+        word("Content-Type:;a/b\n", 0, "text/plain");
+        word("Content-Type:A/Z;\n", 0, "a/z");
         word("Content-Type: /a/b\n", 0, "/a/b");
         word("Content-Type: a/b/\n", 0, "a/b/");
         word("Content-Type: \"a;/B\";c\n", 0, "\"a;/b\"");
@@ -456,7 +485,9 @@ public final class PromisesTest {
         parameter("\"a;c=1\";c=2", "c", "1:2");
         parameter("a;\n c=1\n 2", "c", "3:1 2");
         parameter("a; c=1", "a", "NONE");
-        MailParts x = Check.mail("Content-Disposition: a; c=1\n");
+        MailParts x = Check.mail("Content-Type:;c=1;d=2\n");
+        check.due("an empty first ITEM", Check.parameterOf(x, 0, "c"), "1:1");
+        x = Check.mail("Content-Disposition: a; c=1\n");
         check.due("of another FIELD", Check.parameterOf(x, 0, "c"), "NONE");
         x = Check.mail("Content-Type: a; c=1\n\n");
         Check.write(x, "d");
@@ -502,6 +533,7 @@ public final class PromisesTest {
         lists("a hung MULTI", "Content-Disposition: attachment\n" + multi("mixed", "b", leaf("text/x")), "1", "");
         lists("not to be enclosed", "Content-Transfer-Encoding: base64\nContent-Type: message/rfc822\n\nx", "", "0");
         lists("a MULTI without parts", "Content-Type: multipart/mixed; boundary=b\n\n", "", "");
+        lists("begins otherwise", leaf("xext/a"), "", "0");
         lists("no MULTI", "Content-Type: multipart/mixed\n\n", "", "0");
         MailParts x = Check.mail("x");
         check.due("text(false, -1)", x.text(false, -1), NONE);
