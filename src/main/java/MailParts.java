@@ -210,7 +210,11 @@ public final class MailParts {
         return tape.size;
     }
 
+    /** Counted when it is asked for first, since each name is looked for in the whole HEAD. */
     private int countFields(Entity e) {
+        if (e.fields != NONE) {
+            return e.fields;
+        }
         int fields = 0;
         for (int line = e.from; line < e.headTo; line++) {
             int colon = mail.colonOf(line);
@@ -221,6 +225,7 @@ public final class MailParts {
                 fields += mail.fieldLine(e.from, e.headTo, value.bytes) == line ? 1 : 0;
             }
         }
+        e.fields = fields;
         return fields;
     }
 
@@ -238,6 +243,7 @@ public final class MailParts {
         e.from = from;
         e.to = to;
         e.parts = 0;
+        e.fields = NONE;
         e.headTo = mail.headStop(from, to);
         e.bodyFrom = e.headTo < to && mail.isEmptyLine(e.headTo) ? e.headTo + 1 : e.headTo;
         Entity around = find(in);
@@ -492,11 +498,8 @@ public final class MailParts {
             return size == word.length() && begins(word);
         }
 
-        /** Whether what stands here from .. to is that name, great and small letters alike. */
-        boolean hasName(int from, int to, Row name) {
-            if (to - from != name.size) {
-                return false;
-            }
+        /** Whether that name stands here, great and small letters alike. */
+        boolean hasName(int from, Row name) {
             for (int i = 0; i < name.size; i++) {
                 if (small(get(from + i)) != small(name.get(i))) {
                     return false;
@@ -590,8 +593,10 @@ public final class MailParts {
 
         int fieldLine(int from, int to, Row name) {
             for (int line = from; line < to; line++) {
-                int colon = colonOf(line);
-                if (colon != NONE && bytes.hasName(startOf(line), colon, name)) {
+                int start = startOf(line);
+                int colon = start + name.size;
+                // The cheap look at one byte goes first: a HEAD may have hundreds of lines.
+                if (bytes.get(colon) == ':' && bytes.hasName(start, name) && colonOf(line) == colon) {
                     return line;
                 }
             }
@@ -712,7 +717,7 @@ public final class MailParts {
 
         private boolean isNamed(int from, int to, Row name) {
             int start = behindBlanks(from, to);
-            return bytes.hasName(start, aheadOfBlanks(start, to), name);
+            return aheadOfBlanks(start, to) - start == name.size && bytes.hasName(start, name);
         }
 
         private int behindBlanks(int from, int to) {
@@ -784,6 +789,8 @@ public final class MailParts {
         private int bodyFrom;
         private int to;
         private int parts;
+        /** How many, if they have been counted; else NONE. */
+        private int fields;
         private boolean alternative;
         private boolean digest;
         /** Of a LEAF: whether it hangs on the MAIL. */

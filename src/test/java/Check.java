@@ -52,6 +52,12 @@ final class Check {
         return x;
     }
 
+    static void readAnew(MailParts x, String text) {
+        clear(x);
+        write(x, text);
+        x.read();
+    }
+
     static String tape(MailParts x) {
         StringBuilder text = new StringBuilder();
         for (int k = 0; x.byteAt(k) != MailParts.NONE; k++) {

@@ -130,6 +130,8 @@ public final class PromisesTest {
     /** Nothing of an earlier MAIL is left, whatever that was. */
     private static void again() {
         MailParts x = Check.mail(multi("alternative", "long", leaf("text/html"), leaf("text/plain"), leaf("a/b")));
+        check.due("FIELDS at first", x.entity(1, 9), 1);
+        check.due("FIELDS asked again", x.entity(1, 9), 1);
         check.due("TEXTS at first", Check.list(x, false), "2");
         check.due("HANGING at first", Check.list(x, true), "3");
         Check.write(x, multi("alternative", "b", leaf("c/d"), "Content-Disposition: attachment\n\nx"));
@@ -137,12 +139,13 @@ public final class PromisesTest {
         check.due("parts again", x.entity(0, 8), 2);
         check.due("TEXTS again", Check.list(x, false), "");
         check.due("HANGING again", Check.list(x, true), "1 2");
-        Check.write(x, multi("mixed", "c", leaf("text/html")));
+        Check.write(x, multi("mixed", "c", "A: b\n" + leaf("text/html")));
         check.due("read once more", x.read(), 2);
         check.due("parts once more", x.entity(0, 8), 1);
         check.due("TEXTS once more", Check.list(x, false), "1");
         check.due("HANGING once more", Check.list(x, true), "");
         check.due("not HUNG any more", x.entity(1, 3), 0);
+        check.due("FIELDS once more", x.entity(1, 9), 2);
     }
 
     // Terms: LINES and HEADS, as promise 5 tells them
