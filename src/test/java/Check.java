@@ -1,24 +1,56 @@
+import java.lang.reflect.InvocationTargetException;
+import java.lang.reflect.Method;
 import java.nio.charset.StandardCharsets;
+import java.util.Map;
+import java.util.TreeMap;
 
 /** What the tests share: bytes go in as texts, answers come out, and wrong ones are told. */
 final class Check {
     private int wrong = 0;
     private int looked = 0;
+    private String about = "";
 
     void due(String call, long got, long want) {
         looked++;
         if (got != want) {
-            wrong++;
-            System.out.println(call + " answered " + got + ", due is " + want);
+            tell(call + " answered " + got + ", due is " + want);
         }
     }
 
     void due(String call, String got, String want) {
         looked++;
         if (!got.equals(want)) {
-            wrong++;
-            System.out.println(call + " answered <" + got + ">, due is <" + want + ">");
+            tell(call + " answered <" + got + ">, due is <" + want + ">");
         }
+    }
+
+    private void tell(String message) {
+        wrong++;
+        System.out.println(about + message);
+    }
+
+    /** Runs every method of the class whose name has a _: a case, named after its promise. */
+    void runCases(Class<?> type) throws IllegalAccessException {
+        Map<String, Method> cases = new TreeMap<>();
+        for (Method method : type.getDeclaredMethods()) {
+            if (method.getName().contains("_")) {
+                cases.put(method.getName(), method);
+            }
+        }
+        for (Method method : cases.values()) {
+            about = method.getName() + ": ";
+            int before = looked;
+            try {
+                method.invoke(null);
+            } catch (InvocationTargetException thrown) {
+                tell("threw " + thrown.getCause());
+            }
+            if (looked == before) {
+                tell("looked at no answer");
+            }
+        }
+        about = "";
+        System.out.println(cases.size() + " cases");
     }
 
     /** Ends the test: with exit code 1 if an answer was wrong. */
