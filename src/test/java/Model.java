@@ -269,7 +269,7 @@ final class Model {
         return text.replaceAll("\\A[ \t]+", "").replaceAll("[ \t]+\\z", "");
     }
 
-    private static String low(String text) {
+    static String low(String text) {
         StringBuilder out = new StringBuilder();
         for (char c : text.toCharArray()) {
             out.append(c >= 'A' && c <= 'Z' ? (char) (c + 32) : c);

@@ -367,6 +367,21 @@ public final class PromisesTest {
         check.due("FIELDS once more", x.entity(1, 9), 2);
     }
 
+    static void promise04_kindsOfAnEarlierMail() {
+        MailParts x = Check.mail(Mails.multi("mixed", "b", Mails.enclosed("x"), "\ny"));
+        Check.write(x, "\nx");
+        check.due("read()", x.read(), 1);
+        check.due("a LEAF behind a MULTI", x.entity(0, 0), 0);
+        check.due("no parts", x.entity(0, 8), 0);
+        check.due("TEXTS", Check.list(x, false), "0");
+        Check.write(x, Mails.multi("mixed", "b", "\nx", "\ny"));
+        check.due("read() again", x.read(), 3);
+        check.due("a LEAF behind an ENCLOSED one", x.entity(1, 0), 0);
+        Check.write(x, Mails.enclosed("x"));
+        check.due("read() once more", x.read(), 2);
+        check.due("an ENCLOSED one behind a MULTI", x.entity(0, 0), 2);
+    }
+
     static void promise04_fullRoomIsFreeAgain() {
         MailParts x = full(9);
         check.due("lost", x.count(3), 9);

@@ -228,6 +228,17 @@ public final class TermsOfPartsTest {
         starts("Content-Type: multipart/a; boundary=\"b \"\n\n--b\n--b \n--b --", 51);
     }
 
+    static void promise04_multiBoundaryWithA13AtItsEnd() {
+        // A 13 that ends a line is no byte of it, so it is none of the boundary either.
+        starts("Content-Type: multipart/a; boundary=\"b\r\"\n\n--b\r\n--b\r\r\nx\n", 53);
+        starts("Content-Type: multipart/a; boundary=\"b\r\"\n\n--b\r", 46);
+    }
+
+    static void promise04_multiBoundaryLongerThanTheLine() {
+        starts("Content-Type: multipart/a; boundary=bbb\n\n--bb\n--b\n--bbb", 55);
+        starts("Content-Type: multipart/a; boundary=bbb\n\n--bb");
+    }
+
     static void promise04_multiBoundaryOfDashes() {
         starts("Content-Type: multipart/a; boundary=--\n\n----\n\n------\n----", 45);
     }
