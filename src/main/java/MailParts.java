@@ -671,16 +671,17 @@ public final class MailParts {
         /** Nothing is kept, and false, if there is no PARAMETER of that name. */
         boolean keepParameter(Row name) {
             int size = bytes.size;
-            int from = find(';', 0, size) + 1;
-            while (from <= size) {
-                int to = find(';', from, size);
+            int to = find(';', 0, size);
+            // There are no more ITEMS behind the first one than bytes, since a ; is ahead of each.
+            for (int item = 1; item <= size && to < size; item++) {
+                int from = to + 1;
+                to = find(';', from, size);
                 int equal = find('=', from, to);
                 if (equal < to && isNamed(from, equal, name)) {
                     keep(equal + 1, to);
                     unquote();
                     return true;
                 }
-                from = to + 1;
             }
             bytes.clear();
             return false;

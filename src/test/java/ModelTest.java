@@ -1,4 +1,3 @@
-import java.util.List;
 import java.util.Random;
 
 /** Many mails, made by a fixed rule, compared call by call with the model. */
@@ -21,6 +20,7 @@ public final class ModelTest {
         "Content-Transfer-Encoding:"
     };
     private static final String[] NAMES = {"Subject", "x", "content-TYPE", "boundary", "name", "NAME", "", "a\"b;c=d\"", "x y", "zz"};
+    private static final Compare compare = new Compare(check);
 
     public static void main(String[] args) {
         Random random = new Random(20261115);
@@ -29,7 +29,7 @@ public final class ModelTest {
             // Some objects read many mails: nothing of one may show in the next.
             x = i % 10 == 0 ? new MailParts() : x;
             String mail = i % 5 == 0 ? noise(random) : i % 5 == 1 ? deep(random) : lines(random);
-            compare(x, mail.length() > 1500 ? mail.substring(0, 1500) : mail, random);
+            compare.all(x, mail.length() > 1500 ? mail.substring(0, 1500) : mail, pick(NAMES, random), random.nextInt(50));
         }
         check.finish();
     }
@@ -88,51 +88,5 @@ public final class ModelTest {
             mail.append(some.charAt(random.nextInt(some.length())));
         }
         return mail.toString();
-    }
-
-    private static void compare(MailParts x, String mail, Random random) {
-        Check.readAnew(x, mail);
-        Model model = new Model(mail);
-        String of = " of <" + mail.replace("\r", "\\r").replace("\n", "\\n") + ">";
-        int[] counts = {model.parts.size(), model.parts.get(0).texts().size(), model.hanging().size(), model.lost, model.lines.size()};
-        for (int what = 0; what < counts.length; what++) {
-            check.due("count(" + what + ")" + of, x.count(what), counts[what]);
-        }
-        check.due("TEXTS" + of, Check.list(x, false), numbers(model.parts.get(0).texts()));
-        check.due("HANGING" + of, Check.list(x, true), numbers(model.hanging()));
-        for (int entity = -1; entity <= model.parts.size(); entity++) {
-            Model.Part part = entity < 0 || entity >= model.parts.size() ? null : model.parts.get(entity);
-            for (int what = -1; what <= 10; what++) {
-                check.due("entity(" + entity + ", " + what + ")" + of, x.entity(entity, what), part == null ? -1 : part.number(what));
-            }
-            for (int what = -1; what <= 3; what++) {
-                check.due("word(" + entity + ", " + what + ")" + of, Check.word(x, entity, what), part == null ? "NONE" : part.word(what));
-            }
-            compareTape(x, part, entity, of, random);
-        }
-    }
-
-    private static void compareTape(MailParts x, Model.Part part, int entity, String of, Random random) {
-        String name = pick(NAMES, random);
-        String value = part == null ? null : part.fields.get(name.toLowerCase());
-        check.due("field " + name + " " + entity + of, Check.fieldOf(x, entity, name), sized(value));
-        value = part == null ? null : part.parameters("content-type").get(name.toLowerCase());
-        check.due("parameter " + name + " " + entity + of, Check.parameterOf(x, entity, name), sized(value));
-        String body = part == null ? "" : part.body();
-        int k = random.nextInt(body.length() + 3) - 1;
-        boolean there = part != null && k >= 0 && k <= body.length();
-        check.due("body(" + entity + ", " + k + ")" + of, Check.bodyOf(x, entity, k), sized(there ? body.substring(k) : null));
-    }
-
-    private static String sized(String text) {
-        return text == null ? "NONE" : text.length() + ":" + text;
-    }
-
-    private static String numbers(List<Model.Part> parts) {
-        StringBuilder text = new StringBuilder();
-        for (Model.Part part : parts) {
-            text.append(text.length() == 0 ? "" : " ").append(part.number);
-        }
-        return text.toString();
     }
 }

@@ -7,15 +7,20 @@ import java.lang.reflect.Modifier;
 import java.nio.file.Files;
 import java.nio.file.Path;
 import java.util.ArrayDeque;
+import java.util.ArrayList;
 import java.util.Collections;
 import java.util.Deque;
 import java.util.IdentityHashMap;
+import java.util.List;
 import java.util.Set;
 import java.util.TreeSet;
+import java.util.regex.Matcher;
+import java.util.regex.Pattern;
 
 /** The rules of LANGUAGE.md that a test can see: the face, the words, and the room that is used. */
 public final class RulesTest {
     private static final Check check = new Check();
+    private static final Path SOURCE = Path.of("src/main/java/MailParts.java");
     private static final String FACE = "[at(int,int,int)int, body(int,int)int, byteAt(int)int, count(int)int, end(int)int,"
             + " entity(int,int)int, feed(int,int,int,int,int)void, field(int)int, length(int,int)int, parameter(int)int,"
             + " read()int, text(boolean,int)int]";
@@ -24,6 +29,7 @@ public final class RulesTest {
 
     public static void main(String[] args) throws IOException, IllegalAccessException {
         face();
+        sizes();
         words();
         roomOfAnObject();
         callsMakeNothing();
@@ -47,7 +53,6 @@ public final class RulesTest {
         for (Method method : type.getDeclaredMethods()) {
             boolean hidden = Modifier.isPrivate(method.getModifiers());
             check.due("private " + method.getName(), hidden && names.contains(method.getName()) ? 1 : 0, 0);
-            check.due("parameters of " + method.getName(), Math.max(7, method.getParameterCount()), 7);
         }
         for (Field field : type.getDeclaredFields()) {
             int modifiers = field.getModifiers();
@@ -71,8 +76,33 @@ public final class RulesTest {
         return text.append(")").append(method.getReturnType().getName()).toString();
     }
 
+    /** Rule 11, as far as a number can be put to it. */
+    private static void sizes() throws IOException {
+        List<Class<?>> types = new ArrayList<>(List.of(MailParts.class.getDeclaredClasses()));
+        types.add(MailParts.class);
+        check.due("classes: " + types.size(), types.size() <= 12 ? 1 : 0, 1);
+        for (Class<?> type : types) {
+            int fields = 0;
+            for (Field field : type.getDeclaredFields()) {
+                fields += Modifier.isStatic(field.getModifiers()) ? 0 : 1;
+            }
+            check.due("fields of " + type.getName() + ": " + fields, fields <= 20 ? 1 : 0, 1);
+            for (Method method : type.getDeclaredMethods()) {
+                check.due("parameters of " + method, method.getParameterCount() <= 7 ? 1 : 0, 1);
+            }
+        }
+        Matcher method = Pattern.compile("(?m)^( {4}| {8})\\S[^;=\n]*\\) \\{\n(?:(?!\\1\\}$).*\n)*\\1\\}$").matcher(Files.readString(SOURCE));
+        int methods = 0;
+        while (method.find()) {
+            methods++;
+            long lines = method.group().lines().count();
+            check.due("lines of " + method.group().lines().findFirst() + ": " + lines, lines <= 60 ? 1 : 0, 1);
+        }
+        check.due("methods seen: " + methods, methods >= 60 ? 1 : 0, 1);
+    }
+
     private static void words() throws IOException {
-        String source = Files.readString(Path.of("src/main/java/MailParts.java"));
+        String source = Files.readString(SOURCE);
         String code = source.replaceAll("(?s)/\\*.*?\\*/", "").replaceAll("//[^\n]*", "");
         for (String word : new String[] {"throw", "throws", "try", "catch", "synchronized", "assert", "import", "package", "System"}) {
             check.due("the word " + word, code.matches("(?s).*\\b" + word + "\\b.*") ? 1 : 0, 0);
